@@ -8,6 +8,9 @@ public final class ModelTest {
         for (int run = 0; run < 1500; run++) {
             oneRun(new Random(run), run);
         }
+        for (int run = 0; run < 400; run++) {
+            oneFlickeringRun(new Random(run), run);
+        }
         DUE.end("ModelTest");
     }
 
@@ -30,6 +33,32 @@ public final class ModelTest {
             }
         }
         seeAll(mesh, model, run);
+    }
+
+    /**
+     * Links that come and go between single ticks: the only way to lose an acknowledgement, since
+     * all who could drown it find the air busy.
+     */
+    private static void oneFlickeringRun(Random random, int run) {
+        int seed = random.nextInt();
+        TrickleMesh mesh = new TrickleMesh(seed, 60, 3);
+        PlainMesh model = new PlainMesh(seed, 60, 3);
+        for (int i = 0; i < 400; i++) {
+            int a = random.nextInt(4);
+            int b = random.nextInt(4);
+            int cost = random.nextInt(3) == 0 ? 0 : 1 + random.nextInt(3);
+            mesh.link(a, b, cost);
+            model.link(a, b, cost);
+            if (random.nextInt(5) == 0) {
+                mesh.send(a, b, 15, i);
+                model.send(a, b, 15, i);
+            }
+            int n = random.nextInt(20) == 0 ? 15 : 1;
+            DUE.is("flickering run " + run + ": tick(" + n + ")", mesh.tick(n), model.tick(n));
+            if (i % 4 == 0) {
+                seeAll(mesh, model, run);
+            }
+        }
     }
 
     private static int some(Random random, int low, int high) {
