@@ -3,13 +3,19 @@ final class Due {
     private static final int MOST_PRINTED = 200;
     private int wrong;
     private int asked;
+    private String sentence = "";
+
+    /** The sentence of the document that the following answers are due to. */
+    void sentence(String words) {
+        sentence = words + " | ";
+    }
 
     void is(String call, long got, long want) {
         asked++;
         if (got != want) {
             wrong++;
             if (wrong <= MOST_PRINTED) {
-                System.out.println(call + " answered " + got + ", due is " + want);
+                System.out.println(sentence + call + " answered " + got + ", due is " + want);
             }
         }
     }

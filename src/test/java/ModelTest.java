@@ -8,7 +8,7 @@ public final class ModelTest {
         for (int run = 0; run < 1500; run++) {
             oneRun(new Random(run), run);
         }
-        for (int run = 0; run < 400; run++) {
+        for (int run = 0; run < 900; run++) {
             oneFlickeringRun(new Random(run), run);
         }
         DUE.end("ModelTest");
@@ -18,7 +18,7 @@ public final class ModelTest {
         int seed = random.nextInt();
         int rise = random.nextInt(3) == 0 ? random.nextInt(400) - 100 : random.nextInt(30);
         int redundant = random.nextInt(3) == 0 ? random.nextInt(40) - 10 : 1 + random.nextInt(4);
-        TrickleMesh mesh = new TrickleMesh(seed, rise, redundant);
+        Mesh mesh = new Mesh(seed, rise, redundant);
         PlainMesh model = new PlainMesh(seed, rise, redundant);
         int longest = 1 + random.nextInt(random.nextInt(4) == 0 ? 100 : 12);
         boolean loopy = random.nextInt(4) == 0;
@@ -41,9 +41,9 @@ public final class ModelTest {
      */
     private static void oneFlickeringRun(Random random, int run) {
         int seed = random.nextInt();
-        TrickleMesh mesh = new TrickleMesh(seed, 60, 3);
+        Mesh mesh = new Mesh(seed, 60, 3);
         PlainMesh model = new PlainMesh(seed, 60, 3);
-        for (int i = 0; i < 400; i++) {
+        for (int i = 0; i < 170; i++) {
             int a = random.nextInt(4);
             int b = random.nextInt(4);
             int cost = random.nextInt(3) == 0 ? 0 : 1 + random.nextInt(3);
@@ -55,7 +55,7 @@ public final class ModelTest {
             }
             int n = random.nextInt(20) == 0 ? 15 : 1;
             DUE.is("flickering run " + run + ": tick(" + n + ")", mesh.tick(n), model.tick(n));
-            if (i % 4 == 0) {
+            if (i % 10 == 0) {
                 seeAll(mesh, model, run);
             }
         }
@@ -66,7 +66,7 @@ public final class ModelTest {
             : high + 1 + random.nextInt(3)) : low + random.nextInt(high - low + 1);
     }
 
-    private static void oneLink(TrickleMesh mesh, PlainMesh model, Random random, int run) {
+    private static void oneLink(Mesh mesh, PlainMesh model, Random random, int run) {
         int a = some(random, 0, 6);
         int b = some(random, 0, 6);
         int cost = some(random, random.nextInt(3) == 0 ? 0 : 1, 9);
@@ -74,7 +74,7 @@ public final class ModelTest {
             mesh.link(a, b, cost), model.link(a, b, cost));
     }
 
-    private static void oneCall(TrickleMesh mesh, PlainMesh model, Random random, int run, int longest, boolean loopy) {
+    private static void oneCall(Mesh mesh, PlainMesh model, Random random, int run, int longest, boolean loopy) {
         int kind = random.nextInt(100);
         if (kind < 50) {
             int n = random.nextInt(40) == 0 ? some(random, 0, 100) : random.nextInt(longest + 1);
@@ -96,7 +96,7 @@ public final class ModelTest {
         }
     }
 
-    private static void seeAll(TrickleMesh mesh, PlainMesh model, int run) {
+    private static void seeAll(Mesh mesh, PlainMesh model, int run) {
         for (int a = -1; a <= 7; a++) {
             for (int what = -1; what <= 13; what++) {
                 DUE.is("run " + run + ": node(" + a + ", " + what + ")", mesh.node(a, what), model.node(a, what));

@@ -22,8 +22,8 @@ public final class PromisesTest {
     }
 
     /** 0 - 1 - 2 in a row, with all ranks and routes made. */
-    private static TrickleMesh row() {
-        TrickleMesh mesh = new TrickleMesh(1, 30, 2);
+    private static Mesh row() {
+        Mesh mesh = new Mesh(1, 30, 2);
         mesh.link(0, 1, 2);
         mesh.link(1, 2, 3);
         mesh.tick(100);
@@ -34,7 +34,7 @@ public final class PromisesTest {
     }
 
     private static void aNewObject() {
-        TrickleMesh mesh = new TrickleMesh(99, 5, 1);
+        Mesh mesh = new Mesh(99, 5, 1);
         int[] root = {1, 0, 1, 4, 0, 0, 0, 0, 0, 0, 255, 0, 0};
         int[] other = {255, 0, 0, 64, 0, 0, 0, 0, 0, 0, 255, 0, 0};
         for (int a = 0; a < 7; a++) {
@@ -60,7 +60,7 @@ public final class PromisesTest {
             int point = 2 + (s >>> 16) % 2;
             s = s * 1103515245 + 12345;
             int wait = (s >>> 16) % 4;
-            TrickleMesh mesh = new TrickleMesh(seed, 0, 1);
+            Mesh mesh = new Mesh(seed, 0, 1);
             mesh.tick(point - 1);
             DUE.is("seed " + seed + ": queue before the point", mesh.node(0, 6), 0);
             mesh.tick(1);
@@ -79,7 +79,7 @@ public final class PromisesTest {
      * all the time, 1 goes up from 2 by 10 each time; with 4 after the cut, to 11, then by 8.
      */
     private static int highestRank(int rise, int laterCost) {
-        TrickleMesh mesh = new TrickleMesh(3, rise, 9);
+        Mesh mesh = new Mesh(3, rise, 9);
         mesh.link(0, 1, 1);
         mesh.link(1, 2, 5);
         mesh.tick(100);
@@ -113,7 +113,7 @@ public final class PromisesTest {
     }
 
     private static String transcript(int redundant) {
-        TrickleMesh mesh = new TrickleMesh(12, 200, redundant);
+        Mesh mesh = new Mesh(12, 200, redundant);
         for (int a = 1; a < 7; a++) {
             mesh.link(0, a, 1 + a);
         }
@@ -138,13 +138,13 @@ public final class PromisesTest {
         String nine = transcript(9);
         DUE.is("redundant 10 is 9", transcript(10).equals(nine), true);
         DUE.is("redundant greatest is 9", transcript(Integer.MAX_VALUE).equals(nine), true);
-        TrickleMesh lone = new TrickleMesh(4, 0, 0);
+        Mesh lone = new Mesh(4, 0, 0);
         lone.tick(100);
         DUE.is("the nearest to 0 lets the root advertise", lone.count(2) > 0, true);
     }
 
     private static void link() {
-        TrickleMesh mesh = new TrickleMesh(8, 30, 2);
+        Mesh mesh = new Mesh(8, 30, 2);
         for (int bad : NO_NODES) {
             DUE.is("link(" + bad + ", 1, 1)", mesh.link(bad, 1, 1), false);
             DUE.is("link(1, " + bad + ", 1)", mesh.link(1, bad, 1), false);
@@ -177,7 +177,7 @@ public final class PromisesTest {
     }
 
     private static void kill() {
-        TrickleMesh mesh = row();
+        Mesh mesh = row();
         for (int bad : NO_NODES) {
             DUE.is("kill(" + bad + ")", mesh.kill(bad), false);
         }
@@ -207,7 +207,7 @@ public final class PromisesTest {
     }
 
     private static void killWhileListening() {
-        TrickleMesh mesh = row();
+        Mesh mesh = row();
         mesh.send(2, 0, 9, 1);
         for (int i = 0; i < 50 && mesh.node(2, 11) != 2; i++) {
             mesh.tick(1);
@@ -224,7 +224,7 @@ public final class PromisesTest {
     }
 
     private static void repair() {
-        TrickleMesh mesh = row();
+        Mesh mesh = row();
         mesh.tick(100);
         DUE.is("interval before", mesh.node(0, 3) > 4, true);
         DUE.is("repair()", mesh.repair(), 2);
@@ -243,7 +243,7 @@ public final class PromisesTest {
     }
 
     private static void send() {
-        TrickleMesh mesh = row();
+        Mesh mesh = row();
         for (int bad : NO_NODES) {
             DUE.is("send from " + bad, mesh.send(bad, 0, 1, 1), TrickleMesh.BAD);
             DUE.is("send to " + bad, mesh.send(1, bad, 1, 1), TrickleMesh.BAD);
@@ -279,7 +279,7 @@ public final class PromisesTest {
     }
 
     private static void queueHasRoomForFour() {
-        TrickleMesh mesh = row();
+        Mesh mesh = row();
         for (int i = 0; i < 60 && mesh.node(2, 6) > 0; i++) {
             mesh.tick(1);
         }
@@ -298,7 +298,7 @@ public final class PromisesTest {
     }
 
     private static void tick() {
-        TrickleMesh mesh = new TrickleMesh(1, 1, 1);
+        Mesh mesh = new Mesh(1, 1, 1);
         DUE.is("tick(0)", mesh.tick(0), 0);
         DUE.is("tick(1)", mesh.tick(1), 1);
         DUE.is("tick(100)", mesh.tick(100), 101);
@@ -309,8 +309,8 @@ public final class PromisesTest {
         int clock = mesh.node(0, 4);
         mesh.tick(0);
         DUE.is("tick(0) changes nothing", mesh.node(0, 4), clock);
-        TrickleMesh one = row();
-        TrickleMesh many = row();
+        Mesh one = row();
+        Mesh many = row();
         one.tick(37);
         for (int i = 0; i < 37; i++) {
             many.tick(1);
@@ -319,7 +319,7 @@ public final class PromisesTest {
     }
 
     private static void node() {
-        TrickleMesh mesh = row();
+        Mesh mesh = row();
         for (int bad : NO_NODES) {
             DUE.is("node(" + bad + ", 0)", mesh.node(bad, 0), TrickleMesh.BAD);
             DUE.is("node(0, what " + bad + ")", bad == 7 ? -1 : mesh.node(0, bad), TrickleMesh.BAD);
@@ -337,7 +337,7 @@ public final class PromisesTest {
     }
 
     private static void next() {
-        TrickleMesh mesh = row();
+        Mesh mesh = row();
         DUE.is("next(0, 1)", mesh.next(0, 1), 2);
         DUE.is("next(0, 2)", mesh.next(0, 2), 2);
         DUE.is("next(1, 2)", mesh.next(1, 2), 3);
@@ -355,7 +355,7 @@ public final class PromisesTest {
     }
 
     private static void known() {
-        TrickleMesh mesh = row();
+        Mesh mesh = row();
         DUE.is("known(0, 1)", mesh.known(0, 1), 3);
         DUE.is("known(1, 0)", mesh.known(1, 0), 1);
         DUE.is("known(1, 2)", mesh.known(1, 2), 6);
@@ -374,7 +374,7 @@ public final class PromisesTest {
     }
 
     private static void delivered() {
-        TrickleMesh mesh = row();
+        Mesh mesh = row();
         DUE.is("none yet", mesh.delivered(1, 0), 0);
         for (int i = 1; i <= 10; i++) {
             mesh.send(2, 1, 1, 100 + i);
@@ -398,7 +398,7 @@ public final class PromisesTest {
     }
 
     private static void count() {
-        TrickleMesh mesh = row();
+        Mesh mesh = row();
         mesh.send(0, 5, 1, 1);
         mesh.send(2, 1, 1, 1);
         mesh.send(0, 1, 1, 1);
@@ -411,7 +411,7 @@ public final class PromisesTest {
             DUE.is("count(" + what + ")", mesh.count(what), 0);
         }
         // A frame that nobody acknowledges is on the air four times.
-        TrickleMesh lone = row();
+        Mesh lone = row();
         for (int i = 0; i < 60 && lone.node(2, 6) > 0; i++) {
             lone.tick(1);
         }

@@ -1,7 +1,7 @@
 /** Runs traced by hand from the section 'Terms', tick by tick. */
 public final class TermsTest {
     private static final Due DUE = new Due();
-    private static TrickleMesh mesh;
+    private static Mesh mesh;
 
     public static void main(String[] args) {
         twoNodesTickByTick();
@@ -46,7 +46,7 @@ public final class TermsTest {
 
     /** Links are given as a, b, cost, a, b, cost .. */
     private static void settledMesh(int seed, int rise, int... links) {
-        mesh = new TrickleMesh(seed, rise, 9);
+        mesh = new Mesh(seed, rise, 9);
         for (int i = 0; i < links.length; i += 3) {
             mesh.link(links[i], links[i + 1], links[i + 2]);
         }
@@ -66,7 +66,7 @@ public final class TermsTest {
 
     /** Seed 2 draws, modulo 32: 12 1 31 18 13 23 24 25 14 19 21. */
     private static void twoNodesTickByTick() {
-        mesh = new TrickleMesh(2, 30, 2);
+        mesh = new Mesh(2, 30, 2);
         mesh.link(0, 1, 3);
         // The root's point is 2 + 12 % 2.
         mesh.tick(1);
@@ -185,7 +185,7 @@ public final class TermsTest {
     }
 
     private static void aSolicitResetsTheRootsTimer() {
-        mesh = new TrickleMesh(3, 30, 1);
+        mesh = new Mesh(3, 30, 1);
         mesh.tick(15);
         node(1, 6, 0);
         mesh.tick(1);
@@ -303,7 +303,7 @@ public final class TermsTest {
     }
 
     private static void everySixtyFourTicksTheNumberGrows() {
-        mesh = new TrickleMesh(11, 30, 2);
+        mesh = new Mesh(11, 30, 2);
         mesh.link(0, 1, 1);
         mesh.tick(63);
         node(1, 12, 1);
