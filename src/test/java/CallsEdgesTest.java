@@ -9,6 +9,7 @@ public final class CallsEdgesTest {
         allNodesAreAliveAndNoneAreLinked();
         riseIsAtLeast0();
         riseIsAtMost200();
+        redundantIsAtLeast1();
         linkRefusesWhatIsNoNode();
         linkRefusesOneWithItself();
         linkRefusesACostThatIsNot0To9();
@@ -129,6 +130,15 @@ public final class CallsEdgesTest {
         DUE.is("RISE 199, LEAST and 199", raised(199, 3), 201);
         DUE.is("the greatest, LEAST and 200", raised(Integer.MAX_VALUE, 4), 202);
         DUE.is("the greatest, LEAST and 201", raised(Integer.MAX_VALUE, 5), 255);
+    }
+
+    /** With REDUNDANT 0 no ADVERT would ever be queued. */
+    private static void redundantIsAtLeast1() {
+        DUE.sentence("REDUNDANT 1 .. 9 (the nearest number for others)");
+        for (int redundant : new int[] {1, 0, -1, -9, Integer.MIN_VALUE}) {
+            Scene scene = new Scene(3, 30, redundant).ticks(3);
+            DUE.is("REDUNDANT " + redundant + ": ADVERTs", scene.queue(0) + scene.aired(), 1);
+        }
     }
 
     private static void linkRefusesWhatIsNoNode() {
@@ -280,6 +290,27 @@ public final class CallsEdgesTest {
         DUE.is("TRIES", scene.tries(1), 0);
         DUE.is("DROPPED", scene.dropped(), 0);
         DUE.is("parent stays", scene.parent(1), 0);
+        for (int seed = 0; seed < 20; seed++) {
+            DUE.is("it draws no more", waitsAfterDeath(seed, 0), waitsAfterDeath(seed, 1));
+        }
+    }
+
+    /** 1 dies while it listens, or later, when it is done: nothing is drawn for it in between, and the root draws the same. */
+    private static int waitsAfterDeath(int seed, int later) {
+        Scene scene = new Scene(seed, 30, 9, 0, 1, 2).withoutOthers().ticks(100);
+        scene.still(18);
+        scene.mesh.send(1, 0, 15, 1);
+        scene.until(1, 11, Scene.LISTENS);
+        scene.ticks(later);
+        scene.mesh.kill(1);
+        scene.ticks(1 - later);
+        int waits = 0;
+        for (int i = 0; i < 3; i++) {
+            scene.mesh.send(0, 1, 15, 1);
+            waits = waits * 4 + scene.waits(0);
+            scene.until(0, 6, 0);
+        }
+        return waits;
     }
 
     private static void theDeadStayAsTheyWere() {
@@ -553,6 +584,9 @@ public final class CallsEdgesTest {
                 int due = k > 7 || k >= i ? 0 : (1 + (i - k) % 2) * 1000 + 100 + i - k;
                 DUE.is("of " + i + ", delivered(0, " + k + ")", scene.mesh.delivered(0, k), due);
             }
+        }
+        for (int k : new int[] {-2, -3, -8, -9, Integer.MIN_VALUE, Integer.MIN_VALUE + 20, Integer.MAX_VALUE, 16}) {
+            DUE.is("delivered(0, " + k + ")", scene.mesh.delivered(0, k), 0);
         }
         DUE.is("in all", scene.mesh.count(1), 20);
     }

@@ -1,20 +1,23 @@
-/** Counts answers that are not as due, and prints the first of them. */
+/** Counts answers that are not as due, and prints the first of them of each sentence. */
 final class Due {
-    private static final int MOST_PRINTED = 200;
+    private static final int MOST_PRINTED = 30;
     private int wrong;
+    private int printed;
     private int asked;
     private String sentence = "";
 
     /** The sentence of the document that the following answers are due to. */
     void sentence(String words) {
         sentence = words + " | ";
+        printed = 0;
     }
 
     void is(String call, long got, long want) {
         asked++;
         if (got != want) {
             wrong++;
-            if (wrong <= MOST_PRINTED) {
+            printed++;
+            if (printed <= MOST_PRINTED) {
                 System.out.println(sentence + call + " answered " + got + ", due is " + want);
             }
         }

@@ -11,6 +11,7 @@ public final class RanksEdgesTest {
         ofSeveralTheParentStays();
         ofSeveralTheLowestIsTaken();
         withNoneThereIsNoRank();
+        theGreatestRankIs254();
         leastAndRiseAreReached();
         leastIsTheRankIfLess();
         nothingOtherIsNoReset();
@@ -19,6 +20,7 @@ public final class RanksEdgesTest {
         theFirstParentIsNoWithdrawal();
         noParentAnyMoreIsNoAnnounce();
         aGreaterVersionForgets();
+        aGreaterVersionWithARankToLose();
         aGreaterVersionWithNothingToLose();
         aLesserVersionIsAReset();
         aLesserVersionWithoutATimer();
@@ -186,6 +188,32 @@ public final class RanksEdgesTest {
         found(found);
     }
 
+    /** 5 and 6, cut off, raise one another; costs are set so that 5 comes to 246, and 6 hears it. */
+    private static Scene raised(int lastCost) {
+        Scene scene = made(1, 200, 0, 1, 9, 1, 2, 9, 2, 3, 9, 3, 4, 9, 4, 5, 9, 5, 6, 9).ticks(150);
+        DUE.is("LEAST of 6", scene.least(6), 55);
+        scene.link(4, 5, 0);
+        scene.mesh.send(5, 0, 9, 9);
+        for (int i = 0; i < 5000 && scene.mesh.known(6, 5) != 246; i++) {
+            int rank = scene.rank(6);
+            int steered = rank >= 237 && rank <= 245 ? 246 - rank : rank >= 219 ? 2 : 9;
+            scene.link(5, 6, scene.rank(5) == 246 ? lastCost : steered);
+            scene.mesh.tick(1);
+        }
+        DUE.is("6 knows the rank of 5", scene.mesh.known(6, 5), 246);
+        return scene;
+    }
+
+    private static void theGreatestRankIs254() {
+        DUE.sentence("or that sum is greater than 254 ... its rank is 255, and it has no parent");
+        Scene scene = raised(8);
+        DUE.is("a sum of 254: rank", scene.rank(6), 254);
+        DUE.is("a sum of 254: parent", scene.parent(6), 5);
+        scene = raised(9);
+        DUE.is("a sum of 255: rank", scene.rank(6), 255);
+        DUE.is("a sum of 255: parent", scene.parent(6), -1);
+    }
+
     /** From rank and LEAST 2, the cost becomes another: the new rank. */
     private static int rankAtCost(int rise, int cost) {
         Scene scene = made(7, rise, 0, 1, 1);
@@ -347,6 +375,39 @@ public final class RanksEdgesTest {
                 DUE.is("the ANNOUNCE alone is queued", scene.queue(1), past.queue() + 1);
                 DUE.is("interval", scene.interval(1), 4);
                 DUE.is("next(1, 2) stays", scene.mesh.next(1, 2), 3);
+            }
+        }
+        found(found);
+    }
+
+    /** 1 has version 2 and has lost its rank; 2, with version 1 and a rank, hears it. */
+    private static void aGreaterVersionWithARankToLose() {
+        DUE.sentence("if it had a parent or its rank was not 255, its rank is 255, ... and its timer is RESET");
+        int found = 0;
+        for (int seed = 0; seed < SEEDS; seed++) {
+            Scene scene = made(seed, 0, 0, 1, 1, 0, 2, 1);
+            scene.untilNow(64, 6);
+            scene.link(0, 2, 0);
+            scene.mesh.repair();
+            scene.until(1, 2, 2);
+            scene.link(0, 1, 0);
+            scene.mesh.send(1, 0, 15, 1);
+            boolean lost = scene.until(1, 0, 255);
+            boolean ready = scene.untilAdvert(1);
+            Scene.Past past = scene.past(2);
+            boolean had = past.rank() == 2 && past.parent() == 0 && past.interval() > 4;
+            scene.tickLinked(1, 2, 1);
+            if (lost && ready && had && scene.version(2) == 2 && scene.now() % 16 != 0) {
+                found++;
+                DUE.is("rank", scene.rank(2), 255);
+                DUE.is("parent", scene.parent(2), -1);
+                DUE.is("LEAST", scene.least(2), 255);
+                DUE.is("known(2, 0)", scene.mesh.known(2, 0), 0);
+                DUE.is("known(2, 1)", scene.mesh.known(2, 1), 255);
+                DUE.is("interval", scene.interval(2), 4);
+                DUE.is("clock", scene.clock(2), 1);
+                DUE.is("COUNT: choosing left them as they were", scene.counted(2), 1);
+                DUE.is("no withdrawal", scene.queue(2), past.queue());
             }
         }
         found(found);

@@ -10,7 +10,6 @@ public final class TermsTest {
         twoAtOnceAreNotHeard();
         aSolicitResetsTheRootsTimer();
         anOlderVersionResetsTheTimer();
-        theGreatestRankIs254();
         ofEqualSumsTheParentStays();
         ofEqualSumsTheLowestIsTaken();
         aFailureTakesNextsAway();
@@ -226,28 +225,6 @@ public final class TermsTest {
             DUE.is("older: the new version comes", until(1, 2, 2), true);
         }
         DUE.is("older: found", found > 0, true);
-    }
-
-    /** 5 and 6, cut off, raise one another; costs are set so that 5 comes to 246, and 6 hears it. */
-    private static int rankAbove(int lastCost) {
-        settledMesh(1, 200, 0, 1, 9, 1, 2, 9, 2, 3, 9, 3, 4, 9, 4, 5, 9, 5, 6, 9);
-        node(5, 10, 46);
-        node(6, 10, 55);
-        mesh.link(4, 5, 0);
-        mesh.send(5, 0, 9, 9);
-        for (int i = 0; i < 5000 && mesh.known(6, 5) != 246; i++) {
-            int rank = mesh.node(6, 0);
-            int steered = rank >= 237 && rank <= 245 ? 246 - rank : rank >= 219 ? 2 : 9;
-            mesh.link(5, 6, mesh.node(5, 0) == 246 ? lastCost : steered);
-            mesh.tick(1);
-        }
-        DUE.is("6 knows the rank of 5", mesh.known(6, 5), 246);
-        return mesh.node(6, 0) * 10 + mesh.node(6, 1);
-    }
-
-    private static void theGreatestRankIs254() {
-        DUE.is("a sum of 254", rankAbove(8), 2546);
-        DUE.is("a sum of 255", rankAbove(9), 2550);
     }
 
     private static void ofEqualSumsTheParentStays() {
